@@ -26,11 +26,10 @@ public final class TrainMile {
     private static final int MOST_BODIES = 40;
     private static final int MOST_NUMBERS = 24;
     private static final int MOST_ODDS = 8;
-    private static final int SHEETS = 4;
     private static final int NAMES = 6;
 
     private static final int SLOWEST = 99;
-    private static final int NEVER = Integer.MAX_VALUE;
+    private static final int NEVER = 1000000000;
 
     private static final int GOING = 0;
     private static final int RUN = 1;
@@ -55,16 +54,13 @@ public final class TrainMile {
     private final World kept = new World();
     private final Race racing = new Race(now);
     private final Judge judging = new Judge(now);
-    private final Reader reader = new Reader();
+    private final Reader reader = new Reader(now.tape);
     private final Voices voices = new Voices();
-    private final Sheet[] sheets = new Sheet[SHEETS];
+    private final Sheet[] sheets = {new Sheet(), new Sheet(), new Sheet(), new Sheet()};
     private final int[] findings = new int[KIND + 1];
     private int images;
 
     public TrainMile() {
-        for (int i = 0; i < SHEETS; i++) {
-            sheets[i] = new Sheet();
-        }
     }
 
     // ---- the road
@@ -297,7 +293,7 @@ public final class TrainMile {
         if (!within(use, PACE_TEXT, ODD_TEXT)) {
             return finding(BEYOND);
         }
-        reader.read(now.tape, now.fed);
+        reader.read(now.fed);
         now.fed = 0;
         if (reader.fault >= 0) {
             return -10 - reader.fault;
@@ -620,8 +616,8 @@ public final class TrainMile {
         return within(going, 0, now.goings.count - 1);
     }
 
-    private static boolean isSheet(int sheet) {
-        return within(sheet, 0, SHEETS - 1);
+    private boolean isSheet(int sheet) {
+        return within(sheet, 0, sheets.length - 1);
     }
 
     private boolean isSet(int struck) {
@@ -911,6 +907,8 @@ public final class TrainMile {
         private final int[] days = new int[MOST_RUNNERS * MOST_ENTRIES];
         private final int[] towns = new int[MOST_RUNNERS * MOST_ENTRIES];
         private final int[] hours = new int[MOST_RUNNERS * MOST_ENTRIES];
+        // Of the runner that is asked for: by entry the others that clash with it, as bits.
+        private final int[] rivals = new int[MOST_ENTRIES];
 
         int add(int strength, int begin) {
             strengths[count] = strength;
@@ -938,40 +936,43 @@ public final class TrainMile {
         }
 
         int clashesOf(int r) {
+            findRivals(r);
             int clashes = 0;
             for (int i = 0; i < entries[r]; i++) {
-                clashes += Integer.bitCount(clashingWith(r, i) >> i);
+                clashes += Integer.bitCount(rivals[i] >> i);
             }
             return clashes;
         }
 
         int mostWithoutClash(int r) {
+            findRivals(r);
             int most = 0;
             for (int chosen = 0; chosen < 1 << entries[r]; chosen++) {
-                if (Integer.bitCount(chosen) > most && clashFree(r, chosen)) {
+                if (Integer.bitCount(chosen) > most && isClashFree(chosen, entries[r])) {
                     most = Integer.bitCount(chosen);
                 }
             }
             return most;
         }
 
-        private boolean clashFree(int r, int chosen) {
-            for (int i = 0; i < entries[r]; i++) {
-                if ((chosen >> i & 1) == 1 && (clashingWith(r, i) & chosen) != 0) {
+        private boolean isClashFree(int chosen, int size) {
+            for (int i = 0; i < size; i++) {
+                if ((chosen >> i & 1) == 1 && (rivals[i] & chosen) != 0) {
                     return false;
                 }
             }
             return true;
         }
 
-        private int clashingWith(int r, int i) {
-            int others = 0;
-            for (int j = 0; j < entries[r]; j++) {
-                if (j != i && clash(r * MOST_ENTRIES + i, r * MOST_ENTRIES + j)) {
-                    others |= 1 << j;
+        private void findRivals(int r) {
+            for (int i = 0; i < entries[r]; i++) {
+                rivals[i] = 0;
+                for (int j = 0; j < entries[r]; j++) {
+                    if (j != i && clash(r * MOST_ENTRIES + i, r * MOST_ENTRIES + j)) {
+                        rivals[i] |= 1 << j;
+                    }
                 }
             }
-            return others;
         }
 
         private boolean clash(int i, int j) {
@@ -1076,7 +1077,7 @@ public final class TrainMile {
                     stack[top] = names[-1 - c];
                     top++;
                 } else if (c == -'!' && top >= 1) {
-                    stack[top - 1] = truth(stack[top - 1] == 0);
+                    stack[top - 1] = stack[top - 1] == 0 ? 1 : 0;
                 } else if (top >= 2) {
                     top--;
                     stack[top - 1] = join(-c, stack[top - 1], stack[top]);
@@ -1088,15 +1089,15 @@ public final class TrainMile {
         private static int join(int sign, int left, int right) {
             switch (sign) {
                 case '|':
-                    return truth(left != 0 || right != 0);
+                    return left != 0 || right != 0 ? 1 : 0;
                 case '&':
-                    return truth(left != 0 && right != 0);
+                    return left != 0 && right != 0 ? 1 : 0;
                 case '<':
-                    return truth(left < right);
+                    return left < right ? 1 : 0;
                 case '=':
-                    return truth(left == right);
+                    return left == right ? 1 : 0;
                 case '>':
-                    return truth(left > right);
+                    return left > right ? 1 : 0;
                 case '+':
                     return left + right;
                 case '-':
@@ -1107,28 +1108,33 @@ public final class TrainMile {
                     return right == 0 ? 0 : left / right;
             }
         }
-
-        private static int truth(boolean is) {
-            return is ? 1 : 0;
-        }
     }
 
     /** Reads a tape into a text's codes, or finds its fault. */
     private static final class Reader {
+        private static final int ANY = 0;
+        private static final int ALL = 1;
+        private static final int COMPARED = 2;
+        private static final int SUM = 3;
+        private static final int PRODUCT = 4;
+
         final int[] code = new int[MOST_BYTES];
         int length;
         int fault;
-        private byte[] tape = new byte[0];
+        private final byte[] tape;
         private int end;
         private int at;
 
-        void read(byte[] bytes, int count) {
+        Reader(byte[] bytes) {
             tape = bytes;
-            end = Math.min(count, bytes.length);
+        }
+
+        void read(int count) {
+            end = Math.min(count, tape.length);
             at = 0;
             length = 0;
             fault = -1;
-            readAny(0);
+            readJoined(ANY, 0);
             if (at < end) {
                 failHere();
             }
@@ -1137,14 +1143,6 @@ public final class TrainMile {
         // A fault stops all reading: behind it no sign is seen any more.
         private int sign() {
             return fault < 0 && at < end ? tape[at] & 255 : -1;
-        }
-
-        private boolean take(char wanted) {
-            if (sign() != wanted) {
-                return false;
-            }
-            at++;
-            return true;
         }
 
         private void failHere() {
@@ -1160,49 +1158,40 @@ public final class TrainMile {
             }
         }
 
-        private void readAny(int open) {
-            readAll(open);
-            for (int i = 0; i < MOST_BYTES && take('|'); i++) {
-                readAll(open);
-                emit(-'|');
+        private static int levelOf(int sign) {
+            switch (sign) {
+                case '|':
+                    return ANY;
+                case '&':
+                    return ALL;
+                case '<':
+                case '=':
+                case '>':
+                    return COMPARED;
+                case '+':
+                case '-':
+                    return SUM;
+                case '*':
+                case '/':
+                    return PRODUCT;
+                default:
+                    return -1;
             }
         }
 
-        private void readAll(int open) {
-            readCompared(open);
-            for (int i = 0; i < MOST_BYTES && take('&'); i++) {
-                readCompared(open);
-                emit(-'&');
-            }
-        }
-
-        private void readCompared(int open) {
-            readSum(open);
-            int sign = sign();
-            if (sign == '<' || sign == '=' || sign == '>') {
-                at++;
-                readSum(open);
-                emit(-sign);
-            }
-        }
-
-        private void readSum(int open) {
-            readProduct(open);
-            for (int i = 0; i < MOST_BYTES && (sign() == '+' || sign() == '-'); i++) {
-                int sign = sign();
-                at++;
-                readProduct(open);
-                emit(-sign);
-            }
-        }
-
-        private void readProduct(int open) {
+        // Reads what is joined by operators of a level or of those that bind more. What stands right
+        // of one is read from the next level on, so that those of one level are joined from the left.
+        private void readJoined(int lowest, int open) {
             readSingle(open);
-            for (int i = 0; i < MOST_BYTES && (sign() == '*' || sign() == '/'); i++) {
-                int sign = sign();
+            int highest = PRODUCT;
+            for (int i = 0; i < MOST_BYTES && within(levelOf(sign()), lowest, highest); i++) {
+                int operator = sign();
+                int level = levelOf(operator);
                 at++;
-                readSingle(open);
-                emit(-sign);
+                readJoined(level + 1, open);
+                emit(-operator);
+                // What was compared isn't compared once more.
+                highest = level == COMPARED ? ALL : level;
             }
         }
 
@@ -1219,10 +1208,16 @@ public final class TrainMile {
                 emit(-'!');
             } else if (sign == '(' && open < MOST_OPEN) {
                 at++;
-                readAny(open + 1);
-                if (!take(')')) {
-                    failHere();
-                }
+                readJoined(ANY, open + 1);
+                close();
+            } else {
+                failHere();
+            }
+        }
+
+        private void close() {
+            if (sign() == ')') {
+                at++;
             } else {
                 failHere();
             }
@@ -1304,7 +1299,9 @@ public final class TrainMile {
 
         void follow(int r) {
             row = r * MARKS;
-            Arrays.fill(minutes, row, row + MARKS, -1);
+            for (int m = 0; m < MARKS; m++) {
+                minutes[row + m] = -1;
+            }
             own.begin(world.runners.strengths[r]);
             leftRoad = false;
             mark = 0;

@@ -385,6 +385,9 @@ public final class RaceTest {
         Check.text(x, 0, "99");
         check.due("99 and 1 more", x.odds(0, 2, 200, 1), 1);
         check.due("99 and 1 more", x.odds(0, 2, 199, 1), 4);
+        x.road(8);
+        check.due("eight of 99, the middle", x.odds(0, 8, 792, 1), 12870);
+        check.due("eight of 99 and 1 more", x.odds(0, 8, 800, 1), 1);
         Check.text(x, 0, "99-(f>99)*50");
         check.due("f may be 100", x.odds(0, 2, 148, 1), 1);
         check.due("f may be 100", x.odds(0, 2, 149, 1), 2);

@@ -30,7 +30,31 @@ public final class TwinTest {
         for (int run = from; run < from + runs && check.wrong() < 20; run++) {
             new TwinTest(run).go();
         }
+        oddsByHardLaws();
         check.end();
+    }
+
+    /** Laws that leap from the quickest pace to the slowest one, by what e and f tell. */
+    private static void oddsByHardLaws() {
+        String[] laws = {
+            "99", "(f>97)+(f<4)*99", "(e+f>150)*99+b", "(f>99)*98+(f<2)*99+50", "f*2", "100-f", "e*f/7", "f+e-b*9",
+            "(f-(f/2)*2)*90+e-b", "99-(e>99)*97-(f>99)*97", "1", "(b<7)*98+1",
+        };
+        for (String law : laws) {
+            TwinTest t = new TwinTest(0);
+            t.due("road", t.x.road(9), t.twin.road(9), 9);
+            t.due("runner", t.x.runner(30, 5), t.twin.runner(30, 5), 30, 5);
+            t.feedBoth(law);
+            t.due("text " + law, t.x.text(0), t.twin.text(0), 0);
+            for (int m = 1; m <= 6; m += m == 3 ? 3 : 1) {
+                for (int minutes = m; minutes <= 100 * m; minutes += 17 * m) {
+                    for (int what = 0; what < 2; what++) {
+                        t.due("law " + law + ": odds", t.x.odds(0, m, minutes, what), t.twin.odds(0, m, minutes, what),
+                                0, m, minutes, what);
+                    }
+                }
+            }
+        }
     }
 
     private void go() {
