@@ -101,8 +101,8 @@ public final class RulesTest {
         check.holds("its signs are plain ones", source.chars().allMatch(c -> c < 128));
         String code = source.replaceAll("(?s)/\\*.*?\\*/", "").replaceAll("//[^\n]*", "");
         String[] words = {
-            "throw", "throws", "try", "catch", "finally", "synchronized", "assert", "package", "protected", "System.out",
-            "Thread", "Exception", "Random", "currentTimeMillis", "nanoTime", "hashCode", "toString",
+            "throw", "throws", "try", "catch", "finally", "synchronized", "assert", "package", "protected",
+            "System.out", "Thread", "Exception", "Random", "currentTimeMillis", "nanoTime", "hashCode", "toString",
         };
         for (String word : words) {
             check.holds("there is no " + word, !code.matches("(?s).*\\b" + word.replace(".", "\\.") + "\\b.*"));

@@ -704,7 +704,7 @@ final class Twin {
         return new int[] {from, to, there - left, there - left >= s.least * (to - from) ? 1 : 0}[what];
     }
 
-    private boolean company(int one, int two, int e, boolean both) {
+    private boolean together(int one, int two, int e) {
         List<Integer> marks = new ArrayList<>(s.heard.get(one).keySet());
         marks.retainAll(s.heard.get(two).keySet());
         return marks.size() >= 2
@@ -719,7 +719,7 @@ final class Twin {
         int shoes = 0;
         for (int one = 0; one < s.runners.size(); one++) {
             for (int two = 0; two < one; two++) {
-                if (company(one, two, e, true)) {
+                if (together(one, two, e)) {
                     pairs++;
                     shoes |= 1 << one | 1 << two;
                 }
@@ -791,7 +791,7 @@ final class Twin {
         int c = (int) s.mats.stream().filter(m -> !s.heard.get(shoe).containsKey(m)).count();
         int e = 0;
         for (int other = 0; other < s.runners.size(); other++) {
-            e += other != shoe && company(shoe, other, 1, true) ? 1 : 0;
+            e += other != shoe && together(shoe, other, 1) ? 1 : 0;
         }
         return new Reading(s.texts[1], a, b, c, between(shoe, 0, s.n), e, s.runners.get(shoe).strength).value();
     }

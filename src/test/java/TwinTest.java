@@ -402,7 +402,8 @@ public final class TwinTest {
         int a = pick(0, 3);
         switch (random.nextInt(6)) {
             case 0 -> {
-                int bits = random.nextInt(wrongOneIn) == 0 ? pick(0, 40) : new int[] {0, 8, 16, 16, 32, 8}[random.nextInt(6)];
+                int[] fits = {0, 8, 16, 16, 32, 8};
+                int bits = random.nextInt(wrongOneIn) == 0 ? pick(0, 40) : fits[random.nextInt(fits.length)];
                 int n = random.nextInt(3) > 0 ? pick(1, 6) : pick(0, 24);
                 due("sheet", x.sheet(a, bits, n), twin.sheet(a, bits, n), a, bits, n);
             }
