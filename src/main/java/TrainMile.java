@@ -523,7 +523,7 @@ public final class TrainMile {
         }
         int written = 0;
         for (int i = 0; i < row.size && judging.findGap(shoe, i); i++) {
-            row.set(i, judging.gapMinutes / (judging.gapTo - judging.gapFrom));
+            row.set(i, judging.gapPace());
             written++;
         }
         return written;
@@ -1444,6 +1444,11 @@ public final class TrainMile {
 
         boolean gapOnFoot() {
             return gapMinutes >= world.leastMinutes * (gapTo - gapFrom);
+        }
+
+        int gapPace() {
+            int pieces = gapTo - gapFrom;
+            return pieces < 1 ? 0 : gapMinutes / pieces;
         }
 
         boolean gapByWays(int shoe) {
