@@ -10,6 +10,7 @@ public final class ImagesEdgesTest {
         x -> x.runner(30, 99), x -> x.going(0, 0, 0, 99), x -> x.going(7, 1, 800, -1), x -> x.forget(0),
         x -> x.forget(4), x -> x.draw(65535), TrainMile::race, x -> x.feed('1', 1), x -> x.text(0), x -> x.text(1),
         x -> x.least(30), x -> x.entry(0, 4, 5, 608), x -> x.entry(2, 365, 30, 2324),
+        x -> x.text(0) + Check.feed(x, "zzzz"),
     };
 
     public static void main(String[] args) {

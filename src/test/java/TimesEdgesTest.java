@@ -657,6 +657,15 @@ public final class TimesEdgesTest {
         x.race();
         edge.due("28 less 10 is fewest", x.place(0, 0), 1);
         edge.due("28 less 0", x.place(1, 0), 2);
+        TrainMile y = new TrainMile();
+        y.runner(7, 0);
+        y.runner(7, 1);
+        y.runner(7, 0);
+        y.going(7, 2, 0, 0);
+        y.race();
+        for (int r = 0; r < 3; r++) {
+            edge.due("28 from 0, 29 from 1, 28 from none: all alike", y.place(r, 0), 1);
+        }
     }
 
     private static void promise32Up() {
@@ -680,5 +689,10 @@ public final class TimesEdgesTest {
         x.going(7, 11, 400, 0);
         x.race();
         edge.due("one that isn't HEARD at GOAL struck out", x.up(1 << 11), 0);
+        TrainMile y = steady(4, 1, 2, 3, 4, 5, 6, 7, 8, 9, 10, 11, 12);
+        y.race();
+        edge.due("the first one is the best: all others", y.up(1), 11);
+        edge.due("the first two: the other ten", y.up(3), 10);
+        edge.due("the second: those behind it", y.up(2), 10);
     }
 }
