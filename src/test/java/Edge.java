@@ -106,7 +106,7 @@ final class Edge {
         }
     }
 
-    private static int[] foundBy(TrainMile x) {
+    static int[] foundBy(TrainMile x) {
         int[] found = new int[6];
         for (int k = 1; k <= 5; k++) {
             found[k] = x.found(k);
